@@ -122,8 +122,9 @@ public final class SheetBranches {
         Sheet first = new Sheet(countedUp(FIRST_ROWS), countedUp(FIRST_COLUMNS));
         log.add(first, NONE, NONE);
         working = first.twin();
-        Arrays.fill(branches, NONE);
-        branches[0] = 0;
+        for (int i = 1; i < branches.length; i++) {
+            branches[i] = NONE;
+        }
     }
 
     public int feed(int a, int b, int c, int d, int e) {
@@ -898,12 +899,13 @@ public final class SheetBranches {
         }
 
         void setBytes(byte[] from, int at, int length) {
-            if (length < 0 || length > bytes.length || at < 0 || at > from.length - length) {
-                set(ERROR, TOO_LONG);
-                return;
+            boolean fits = length >= 0 && length <= bytes.length && at >= 0 && at <= from.length - length;
+            if (fits) {
+                System.arraycopy(from, at, bytes, 0, length);
             }
-            System.arraycopy(from, at, bytes, 0, length);
-            set(TEXT, length);
+            kind = fits ? TEXT : ERROR;
+            number = fits ? length : TOO_LONG;
+            absent = false;
         }
 
         void take(Value other) {
@@ -1006,19 +1008,25 @@ public final class SheetBranches {
             if (fixed == FIXED_ALL) {
                 return this;
             }
+            int nextRow = (fixed & FIXED_ROW) != 0 ? row : its.further(ROWS, row, down);
+            int nextColumn = (fixed & FIXED_COLUMN) != 0 ? column : its.further(COLUMNS, column, right);
+            int nextToRow = (fixed & FIXED_ROW << 2) != 0 ? toRow : its.further(ROWS, toRow, down);
+            int nextToColumn = (fixed & FIXED_COLUMN << 2) != 0 ? toColumn : its.further(COLUMNS, toColumn, right);
+            if (nextRow == 0 || nextColumn == 0 || nextToRow == 0 || nextToColumn == 0) {
+                return new Part(REF, 0, null);
+            }
             Part next = new Part(op, 0, null);
-            next.row = (fixed & FIXED_ROW) != 0 ? row : its.further(ROWS, row, down);
-            next.column = (fixed & FIXED_COLUMN) != 0 ? column : its.further(COLUMNS, column, right);
-            next.toRow = (fixed & (FIXED_ROW << 2)) != 0 ? toRow : its.further(ROWS, toRow, down);
-            next.toColumn = (fixed & (FIXED_COLUMN << 2)) != 0 ? toColumn : its.further(COLUMNS, toColumn, right);
+            next.row = nextRow;
+            next.column = nextColumn;
+            next.toRow = nextToRow;
+            next.toColumn = nextToColumn;
             next.fixed = fixed;
             next.version = version;
-            boolean isThere = next.row > 0 && next.column > 0 && next.toRow > 0 && next.toColumn > 0;
-            return isThere ? next : new Part(REF, 0, null);
+            return next;
         }
     }
 
-    /** What a cell has; nothing is null. Its PARTS stand behind those that they take (postfix). */
+    /** What a cell has; nothing is null. A FORMULA has PARTS, each behind those that it takes, and no literal. */
     private static final class Content {
         final int kind;
         final Value literal;
@@ -1042,7 +1050,7 @@ public final class SheetBranches {
                     return false;
                 }
             }
-            return one.kind == FORMULA || one.literal.compared(other.literal) == 0;
+            return one.literal == null || other.literal == null || one.literal.compared(other.literal) == 0;
         }
     }
 
@@ -1984,7 +1992,7 @@ public final class SheetBranches {
                     waiting[0] = cell;
                     depth = 1;
                 }
-                for (int turn = 0; turn < 2 * MOST_CELLS && depth > 0; turn++) {
+                for (int turn = 0; turn < 2 * MOST_CELLS && depth > 0 && ordered < MOST_CELLS; turn++) {
                     int next = firstOpenOf(waiting[depth - 1]);
                     if (next != NONE && depth < MOST_CELLS) {
                         waiting[depth] = next;
