@@ -137,4 +137,36 @@ final class Bench {
         }
         return b.toString();
     }
+
+    /** All that can be asked without changing something: two of these are the same if nothing was changed. */
+    String everything() {
+        StringBuilder b = new StringBuilder();
+        for (int i = 0; i <= 15; i++) {
+            b.append(x.total(i)).append(' ');
+        }
+        b.append("fault ").append(x.fault(0)).append('@').append(x.fault(1));
+        for (int i = 0; x.conflict(i, 0) != -1; i++) {
+            b.append(" conflict ").append(x.conflict(i, 0)).append(' ').append(x.conflict(i, 1)).append(' ').append(x.conflict(i, 2)).append(' ').append(x.conflict(i, 3));
+        }
+        for (int i = 0; x.difference(i, 0) != -1; i++) {
+            b.append(" difference ").append(x.difference(i, 0)).append(' ').append(x.difference(i, 1)).append(' ').append(x.difference(i, 2));
+        }
+        for (int v = -1; v < x.total(0); v++) {
+            b.append("\nsheet ").append(v).append(' ').append(x.sheet(v, 2)).append(' ').append(x.sheet(v, 3)).append(' ').append(contents(v));
+        }
+        return b.toString();
+    }
+
+    /** The contents of a sheet and their values, row by row. */
+    String contents(int version) {
+        StringBuilder b = new StringBuilder();
+        for (int r = 1; r <= x.sheet(version, 0); r++) {
+            for (int c = 1; c <= x.sheet(version, 1); c++) {
+                String cell = (char) ('A' + c - 1) + "" + r;
+                b.append(writes(version, cell)).append(':').append(shows(version, cell)).append('|');
+            }
+            b.append('/');
+        }
+        return b.toString();
+    }
 }
