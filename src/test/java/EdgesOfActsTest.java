@@ -51,6 +51,11 @@ public final class EdgesOfActsTest {
         due("sheet(-1, 0) sheet(-1, 1)", b.x.sheet(-1, 0) + " " + b.x.sheet(-1, 1), "32 10");
         b.in("J32", "last").in("A1", "=J32").in("J1", "=SUM(A1:J32)");
         due("A1 J1", b.shows("A1") + b.writes("A1") + b.shows("J1"), "'last=J32CIRCLE");
+        b.in("I31", "=J32").in("J32", "=ROW(J32)*100+COL(J32)");
+        due("a FORMULA in the last cell", b.shows("J32") + " " + b.shows("I31"), "3210 3210");
+        b.in("J32", "=I31");
+        due("a ring over the last cell", b.shows("J32") + " " + b.shows("I31"), "CIRCLE CIRCLE");
+        b.in("J32", "last");
         due("enter(33, 1)", Bench.of(() -> b.x.enter(33, 1)), NO_INDEX);
         due("enter(32, 11)", Bench.of(() -> b.x.enter(32, 11)), NO_INDEX);
         for (int n = 31; n >= 1; n--) {
@@ -277,6 +282,19 @@ public final class EdgesOfActsTest {
         due("PARTS", c.x.total(6), 14);
         c.x.copy(1, 1, 1, 4, 1, 6);
         due("PARTS of what is left out do not count", c.x.total(6), 15);
+        Bench d = new Bench();
+        for (int r = 1; r <= 8; r++) {
+            for (char col = 'A'; col <= 'F'; col++) {
+                d.in(col + "" + r, col + "" + r);
+            }
+        }
+        due("of four in the midst", d.x.copy(2, 2, 3, 3, 5, 4), 4);
+        for (int r = 1; r <= 8; r++) {
+            for (char col = 'A'; col <= 'F'; col++) {
+                boolean within = (r == 5 || r == 6) && (col == 'D' || col == 'E');
+                due("none beside it is changed", d.shows(col + "" + r), "'" + (within ? (char) (col - 2) + "" + (r - 3) : col + "" + r));
+            }
+        }
     }
 
     private static void copiedFormulas() {
@@ -303,6 +321,29 @@ public final class EdgesOfActsTest {
         d.x.remove(0, 7);
         d.x.copy(1, 1, 1, 1, 1, 3);
         due("version 0 has it", d.writes("C1"), "=C8@0");
+
+        Said.term(5, "if it is not there, or that would be outside, the SPOT or AREA becomes #REF; columns likewise.");
+        Bench f = new Bench().in("C3", "=B2").in("D4", "=SUM(B2:B2)").in("C4", "=B5").in("D5", "=E2");
+        f.x.remove(0, 2);
+        f.x.copy(2, 3, 2, 3, 4, 3);
+        f.x.copy(3, 4, 3, 4, 4, 4);
+        due("not there, and further down", f.writes("C4") + f.writes("D4"), "=#REF=SUM(#REF)");
+        f.x.remove(1, 2);
+        f.x.copy(3, 2, 3, 2, 3, 5);
+        due("a column that is not there, and further right", f.writes("E3"), "=#REF");
+        String[][] outside = {{"=SUM(A1:$F$8)", "1", "2"}, {"=SUM(A1:$F$8)", "2", "1"}, {"=SUM($A$1:F8)", "3", "2"}, {"=SUM($A$1:F8)", "2", "3"}, {"=SUM($F$8:A1)", "1", "2"},
+            {"=SUM($F$8:A1)", "2", "1"}, {"=SUM(F8:$A$1)", "3", "2"}, {"=SUM(F8:$A$1)", "2", "3"}, {"=A1", "1", "2"}, {"=A1", "2", "1"}, {"=F8", "3", "2"}, {"=F8", "2", "3"}};
+        for (String[] o : outside) {
+            Bench g = new Bench().in("B2", o[0]);
+            int row = Integer.parseInt(o[1]);
+            int column = Integer.parseInt(o[2]);
+            g.x.copy(2, 2, 2, 2, row, column);
+            String cell = (char) ('A' + column - 1) + "" + row;
+            String due = o[0].startsWith("=SUM") ? "=SUM(#REF)" : "=#REF";
+            due(o[0] + " to " + cell, g.writes(cell), due);
+            g.x.commit();
+            due("it is #REF itself: alike", g.in(cell, due).x.total(9), 1);
+        }
 
         Said.term(5, "(0, too)");
         Bench e = rowComesAgain("=B2", "=SUM(B2:B3)", "=SUM(B1:B2)");

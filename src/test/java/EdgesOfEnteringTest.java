@@ -114,6 +114,14 @@ public final class EdgesOfEnteringTest {
         longest.tape("=" + times(398, " ") + "1");
         due("total(7)", longest.x.total(7), 400);
         due("enter", longest.x.enter(1, 1), 1);
+        String[] ends = {"TRUE", "FALSE", "#REF", "A1", "\"x\"", "SUM(A1:A2)", "A1@0", "NOT(TRUE)"};
+        for (String last : ends) {
+            due("a full tape that ends with " + last, longest.faultOf("=" + times(399 - last.length(), " ") + last), "0@-1");
+        }
+        shows(times(396, " ") + "TRUE", "TRUE", times(395, " ") + "FALSE", "FALSE", times(399, " ") + "5", "5", times(385, " ") + "123456789012345", "123456789012345",
+                times(376, " ") + ABC.substring(0, 24), "'" + ABC.substring(0, 24), times(399, " ") + "'", "'");
+        faults(times(399, " ") + "=", "1@400", "=" + times(399, "1"), "1@16", times(400, "x"), "6@24", "=" + times(199, "1+") + "1", "5@400", times(399, " ") + "\u0000", "1@399",
+                "=" + times(133, "1+ "), "1@400", "=" + times(399, "A"), "1@1", "=1" + times(398, " "), "0@-1", "=1+" + times(397, " "), "1@400");
     }
 
     private static void end() {
@@ -291,6 +299,15 @@ public final class EdgesOfEnteringTest {
     private static void grammar() {
         Said.term(2, "test = chain [ ( \"=\" | \"<>\" | \"<\" | \"<=\" | \">\" | \">=\" ) chain ].");
         comesTo("=1=1", "TRUE", "=1<>1", "FALSE", "=1<1", "FALSE", "=1<=1", "TRUE", "=1>1", "FALSE", "=1>=1", "TRUE", "=(1=1)=TRUE", "TRUE");
+        String[] signs = {"=", "<>", "<", "<=", ">", ">="};
+        for (String one : signs) {
+            writes("=1&2" + one + "3&4", "=1&2" + one + "3&4", "=1+2" + one + "-3", "=1+2" + one + "-3", "=(1" + one + "2)&3", "=(1" + one + "2)&3");
+            comesTo("=1&2" + one + "1&2", one.equals("=") || one.endsWith("=") ? "TRUE" : "FALSE");
+            for (String other : signs) {
+                faults("=1" + one + "2" + other + "3", "1@" + (3 + one.length()));
+                writes("=(1" + one + "2)" + other + "3", "=(1" + one + "2)" + other + "3", "=1" + one + "(2" + other + "3)", "=1" + one + "(2" + other + "3)");
+            }
+        }
         faults("=1=1=1", "1@4", "=1<2>1", "1@4", "=(1=1=1)", "1@5", "=SUM(1=1=1)", "1@8", "=1=", "1@3", "==1", "1@1");
 
         Said.term(2, "chain = sum { \"&\" sum }.");
@@ -359,7 +376,8 @@ public final class EdgesOfEnteringTest {
         Said.term(2, "letters (A to Z) that begin no CORNER (one that has no letter A to Z or digit right behind it) are a WORD, as many as there are.");
         faults("=A1B", "1@1", "=A12C", "1@1", "=A123", "1@1", "=AB1", "1@1", "=$A1B", "1@1", "=A1b", "1@3", "=A1_", "1@3", "=IF1", "1@3",
                 "=TRUE1", "1@5", "=TRUEA1", "1@1", "=TRUEFALSE", "1@1", "=SUMX(1)", "1@1", "=XSUM(1)", "1@1", "=SU M(1)", "1@1",
-                "=SUM(A1:B2C)", "1@8", "=SUM(A1:B234)", "1@8", "=SUM(A1:B2c)", "1@10");
+                "=SUM(A1:B2C)", "1@8", "=SUM(A1:B234)", "1@8", "=SUM(A1:B2c)", "1@10",
+                "=A1A", "1@1", "=A1Z", "1@1", "=A12Z", "1@1", "=A1[", "1@3", "=A1@", "1@4", "=A19", "3@1", "=A190", "1@1", "=SUMA(1)", "1@1", "=SUMZ(1)", "1@1", "=A1a", "1@3");
     }
 
     /** A call of a NAME with so many args, each such as may stand there. */
@@ -429,6 +447,14 @@ public final class EdgesOfEnteringTest {
         b.x.remove(0, 9);
         b.x.remove(0, 8);
         faultsIn(b, "=A8", "3@1", "=A8@1", "0@-1", "=A7", "0@-1");
+        Bench c = new Bench().in("A1", "old").in("F1", "last");
+        c.x.commit();
+        c.x.insert(1, 1);
+        c.x.move(1, 7, 2);
+        c.in("A1", "new").in("A2", "=A1&B1&C1").in("A3", "=INDEX(A1:B1,1)&INDEX(A1:B1,2)").in("A4", "=A1@1").in("A5", "=INDEX(F1:F1@1,1)");
+        due("columns likewise", c.shows("A2") + c.shows("A3") + c.shows("A4") + c.shows("A5"), "'newlastold'newlast'old'last");
+        due("written", c.writes("A2") + c.writes("A3") + c.writes("A4"), "=A1&B1&C1=INDEX(A1:B1,1)&INDEX(A1:B1,2)=A1@1");
+        faultsIn(c, "=G1@1", "3@1", "=G1", "0@-1", "=H1", "3@1");
     }
 
     private static void faultsOfKindOne() {
@@ -575,6 +601,8 @@ public final class EdgesOfEnteringTest {
         due("at the new places", b.writes("A1"), "=$B$11+B2@0+SUM(B11:C12)");
         due("@ without 0s ahead", b.writes("A11"), "=B2@1");
         due("in the version", b.writes(1, "A1"), "=$B$2+B2@0+SUM(B2:C3)");
+        b.in("A3", "=A9+A10+A11+SUM(A9:A10)");
+        due("places of one digit and of two", b.writes("A3"), "=A9+A10+A11+SUM(A9:A10)");
         b.x.remove(0, 12);
         due("a CORNER is not there", b.writes("A1"), "=$B$11+B2@0+SUM(#REF)");
         b.x.remove(1, 2);
@@ -583,6 +611,11 @@ public final class EdgesOfEnteringTest {
         b.x.undo();
         b.x.undo();
         due("there again", b.writes("A1"), "=$B$11+B2@0+SUM(B11:C12)");
+        while (b.x.total(0) < 40) {
+            b.x.commit();
+        }
+        b.in("A1", "=A1@9+A1@10+A1@11+A1@39+SUM(A1:A2@10)");
+        due("versions of one digit and of two", b.writes("A1"), "=A1@9+A1@10+A1@11+A1@39+SUM(A1:A2@10)");
     }
 
     private static void alike() {

@@ -103,6 +103,16 @@ public final class EdgesOfValuesTest {
         b.x.undo();
         due("with it again", b.shows("B1"), "'two");
 
+        Bench chain = new Bench().in("A1", "1");
+        for (int v = 1; v < 39; v++) {
+            chain.x.commit();
+            chain.in("A1", "=A1@" + v + "+1");
+        }
+        chain.x.commit();
+        due("over 39 versions, of which none was asked", chain.shows("A1"), "39");
+        chain.in("B1", "=INDEX(A1:A2@20,1)+A1@39");
+        due("two of them", chain.shows("B1") + " " + chain.shows(7, "A1"), "59 7");
+
         Said.term(3, "#REF: REF.");
         comesTo(b, "=#REF", "REF", "=ISERR(#REF)", "TRUE");
     }
@@ -288,6 +298,12 @@ public final class EdgesOfValuesTest {
         comesTo(b, "=COUNT(A1:A8)", "2", "=COUNT(A1,A2,A3,A4,A5,A6,A7,A8)", "2", "=COUNT(1/0)", "0", "=COUNT(1/0,1)", "1", "=COUNT(\"1\",TRUE,A1)", "0", "=COUNT(B1:C8)", "0",
                 "=COUNT(#REF)", "REF", "=COUNT(1,#REF)", "REF", "=COUNT(#REF,1/0)", "REF", "=COUNT(-#REF,1)", "1", "=COUNT(#REF+1,1)", "1", "=COUNT(IF(TRUE,#REF,1))", "0",
                 "=COUNT(1,2,3,4,5,6,7,8)", "8");
+        comesTo(b, "=COUNT(IF(#REF,1,2),1)", "1", "=COUNT(NOT(#REF),1)", "1", "=COUNT(ABS(#REF),1)", "1", "=COUNT(LEN(#REF),1)", "1", "=COUNT(LEFT(#REF,1),1)", "1",
+                "=COUNT(#REF&1,1)", "1", "=COUNT(1=#REF,1)", "1", "=COUNT(SUM(#REF),1)", "1", "=COUNT(ISERR(#REF),1)", "1", "=COUNT(ROW(#REF),1)", "1", "=COUNT(INDEX(#REF,1),1)", "1",
+                "=COUNT(COUNT(#REF),1)", "1", "=COUNT(MATCH(#REF,A1:A2),1)", "1", "=COUNT(#REF)=1", "REF");
+        Bench c = new Bench().in("A1", "=#REF").in("A2", "=COUNT(\"x\",1)").in("A3", "=#REF").in("A4", "=COUNT(TRUE,1)").in("A5", "=#REF").in("A6", "=COUNT(5,1)").in("A7", "=#REF");
+        c.in("A8", "=COUNT(B1,1)");
+        due("#REF in another cell", c.column('A', 1, 8), "REF 1 REF 1 REF 2 REF 1");
         b.in("B1", "=D1").in("B2", "=COUNT(D1)").in("B3", "=COUNT(B1)").in("B4", "=COUNT(1,D1:E1)").in("B5", "=COUNT(A2,B1:B1)").in("B6", "=COUNT(-D1)");
         b.x.remove(1, 4);
         due("a cell that has REF is passed over", b.shows("B3") + " " + b.shows("B5") + " " + b.shows("B6"), "0 1 0");

@@ -707,6 +707,35 @@ public final class EdgesOfVersionsTest {
         due("merge(0), all cells", c.x.merge(0), 48);
         due("row by row", conflictOf(c, 0) + ", " + conflictOf(c, 5) + ", " + conflictOf(c, 6) + ", " + conflictOf(c, 47), "3 1 1 0, 3 1 6 0, 3 2 1 0, 3 8 6 0");
         due("total(3)", c.x.total(3), 48);
+        Bench d = new Bench();
+        for (int n = 9; n <= 32; n++) {
+            d.x.insert(0, n);
+        }
+        for (int n = 7; n <= 10; n++) {
+            d.x.insert(1, n);
+        }
+        d.x.commit();
+        d.x.branch(1);
+        commitAndGo(filled(d, "m"), 1);
+        due("merge(0), all cells of the greatest sheet", filled(d, "o").x.merge(0), 320);
+        due("the last ones", conflictOf(d, 319) + ", " + conflictOf(d, 310) + ", " + d.x.conflict(320, 0), "3 32 10 0, 3 32 1 0, -1");
+        due("choose(319, true)", d.x.choose(319, true), 319);
+        due("J32", d.shows("J32"), "'m");
+    }
+
+    /** All cells of 32 rows and 10 columns have a text. */
+    private static Bench filled(Bench b, String text) {
+        b.in("A1", text);
+        int[] widths = {1, 2, 4, 2};
+        int width = 1;
+        for (int more : widths) {
+            b.x.copy(1, 1, 1, more, 1, width + 1);
+            width += more;
+        }
+        for (int height = 1; height < 32; height *= 2) {
+            b.x.copy(1, 1, height, 10, height + 1, 1);
+        }
+        return b;
     }
 
     private static void settled() {
