@@ -142,6 +142,19 @@ public final class EdgesOfEnteringTest {
         b.tape("x");
         due("end(0)", b.x.end(0), true);
         due("total(7)", b.x.total(7), 0);
+        String[][] cuts = {{"=A1@0", "900", "0@-1"}, {"=A1", "0", "0@-1"}, {"=A1", "23", "0@-1"}, {"=A1", "B", "0@-1"}, {"=A1", "@9", "0@-1"}, {"=123456789012345", "6", "0@-1"},
+            {"=TRUE", "X", "0@-1"}, {"=#REF", "X", "0@-1"}, {"=\"a\"", "x", "0@-1"}, {"=\"a", "\"", "1@3"}, {"=1<", "=2", "1@3"}, {"=SUM(A1:A1", ")", "1@10"}, {"=SUM(A1:", "A2)", "1@8"},
+            {"=A1@", "0", "1@4"}, {"=1", "+", "0@-1"}, {"=1+", "1", "1@3"}, {"=(1", ")", "1@3"}, {"=#RE", "F", "1@1"}, {"=A", "1", "1@1"}, {"=$", "A1", "1@1"}, {"=SUM(A1", ":A99)", "1@7"},
+            {"TRUE", "X", "0@-1"}, {ABC.substring(0, 24), "yz", "0@-1"}, {"12", "\u0000", "0@-1"}, {"", "=", "0@-1"}};
+        for (String[] cut : cuts) {
+            b.tape(cut[0] + cut[1]);
+            b.x.end(cut[0].length());
+            String thrown = Bench.of(() -> b.x.enter(2, 2));
+            due("[" + cut[0] + "] of [" + cut[0] + cut[1] + "]", b.x.fault(0) + "@" + b.x.fault(1), cut[2]);
+            due("it throws", thrown.startsWith("throws"), !cut[2].equals("0@-1"));
+            due("written", b.writes("B2"), cut[2].equals("0@-1") ? cut[0] : "");
+            b.x.erase(2, 2, 2, 2);
+        }
     }
 
     private static void enter() {
@@ -242,6 +255,7 @@ public final class EdgesOfEnteringTest {
         due("enter", Bench.of(() -> b.x.enter(9, 1)), "throws.IndexOutOfBoundsException");
         due("fault(0), still ahead of any", b.x.fault(0), 0);
         due("fault(1), still ahead of any", b.x.fault(1), 0);
+        due("fault(2), another what", b.x.fault(2), -1);
 
         Said.promise(5, "what 0: the kind (0 without one), 1: the place (NONE).");
         due("enter", Bench.of(() -> b.x.enter(1, 1)), "throws.IllegalArgumentException");
@@ -432,7 +446,8 @@ public final class EdgesOfEnteringTest {
         for (String name : new String[] {"ROW", "COL"}) {
             faults("=" + name + "(A1)", "0@-1", "=" + name + "($A$1@0)", "0@-1", "=" + name + "(#REF)", "0@-1", "=" + name + "(1)", "4@1",
                     "=" + name + "(-A1)", "4@1", "=" + name + "(A1+1)", "4@1", "=" + name + "(ROW(A1))", "4@1", "=" + name + "(TRUE)", "4@1",
-                    "=" + name + "(\"A1\")", "4@1", "=" + name + "(A1:A1)", "4@1", "=" + name + "(#REF&#REF)", "4@1");
+                    "=" + name + "(\"A1\")", "4@1", "=" + name + "(A1:A1)", "4@1", "=" + name + "(#REF&#REF)", "4@1",
+                    "=" + name + "((A1))", "0@-1", "=" + name + "((#REF))", "0@-1", "=" + name + "((1))", "4@1");
         }
     }
 
@@ -489,7 +504,8 @@ public final class EdgesOfEnteringTest {
 
         Said.term(2, "the place right behind : or @, if no CORNER, no digit stands there");
         faults("=SUM(A1:", "1@8", "=SUM(A1:)", "1@8", "=SUM(A1:1)", "1@8", "=SUM(A1:K1)", "1@8", "=SUM(A1: A2)", "1@8", "=SUM(A1:$)", "1@8",
-                "=SUM(A1:A123)", "1@8", "=A1@", "1@4", "=A1@x", "1@4", "=A1@-1", "1@4", "=A1@A1", "1@4", "=SUM(A1:A2@)", "1@11", "=A1@@0", "1@4");
+                "=SUM(A1:A123)", "1@8", "=A1@", "1@4", "=A1@x", "1@4", "=A1@-1", "1@4", "=A1@A1", "1@4", "=SUM(A1:A2@)", "1@11", "=A1@@0", "1@4",
+                "=A1@  ", "1@4", "=SUM(A1:  ", "1@8", "=SUM(A1:A2@  ", "1@11");
 
         Said.term(2, "a $ or # by which nothing begins)");
         faults("=$", "1@1", "=$A", "1@1", "=$1", "1@1", "=$A$", "1@1", "=$K1", "1@1", "=1+$", "1@3", "=A1$", "1@3", "=#", "1@1", "=#RE", "1@1",
